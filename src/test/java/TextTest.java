@@ -1,0 +1,348 @@
+/** Promises 1 to 9: a new object, the tape, the three texts and their FAULTS, has, letter. */
+public final class TextTest {
+    private static final Due DUE = new Due();
+    private static final String REST = " when all;";
+
+    public static void main(String[] args) {
+        newObject();
+        feeding();
+        ending();
+        fields();
+        fieldTakesTrialsAndPlan();
+        laws();
+        plans();
+        faultsOfFields();
+        faultsOfSums();
+        faultsOfDepth();
+        faultsOfLaws();
+        faultsOfPlans();
+        tooManyStatements();
+        latestFault();
+        having();
+        letters();
+        DUE.end();
+    }
+
+    private static void newObject() {
+        BlindSide x = new BlindSide();
+        int[] has = {0, 0, 0, 0, 0, 95, 0, 0, 0, 0};
+        for (int what = 0; what < has.length; what++) {
+            DUE.is("1: has(" + what + ")", x.has(what), has[what]);
+        }
+        DUE.is("1: sight", x.sight(0, 0), 0);
+        DUE.is("1: says", x.says(0, 0, 0, 0, 5), -1);
+        DUE.is("1: run", x.run(0, 1), -1);
+        DUE.is("1: octet", x.octet(0), -1);
+        DUE.is("1: NONE", BlindSide.NONE, -1);
+        DUE.is("1: an empty tape is no image", x.on(), false);
+    }
+
+    private static void feeding() {
+        BlindSide x = new BlindSide();
+        for (int k = 1; k <= 45; k++) {
+            DUE.is("2: feed " + k, x.feed(k, k, k, k, k), 20 * k);
+        }
+        DUE.is("2: full", x.feed(1, 1, 1, 1, 1), -1);
+        DUE.is("2: nothing came", x.end(901), false);
+        DUE.is("2: room for 20 less one", x.end(881), true);
+        DUE.is("2: not enough", x.feed(1, 1, 1, 1, 1), -1);
+        DUE.is("2: just enough", x.end(880), true);
+        DUE.is("2: 900 again", x.feed(1, 1, 1, 1, 1), 900);
+        // the highest byte first: "disc" " 3 4" ";..."
+        BlindSide y = new BlindSide();
+        y.feed(0x64697363, 0x20332034, 0x3b202020, 0x20202020, 0x20202020);
+        DUE.is("2: order of bytes", y.field(), 1);
+        DUE.is("2: order of bytes", y.has(5), 51);
+    }
+
+    private static void ending() {
+        BlindSide x = new BlindSide();
+        DUE.is("3: none", x.end(0), true);
+        DUE.is("3: too many", x.end(1), false);
+        Due.feed(x, "disc 3 4; disc 5 5;");
+        DUE.is("3: below 0", x.end(-1), false);
+        DUE.is("3: too many", x.end(20), false);
+        DUE.is("3: all", x.end(19), true);
+        DUE.is("3: some", x.end(9), true);
+        DUE.is("3: the first ones alone", x.field(), 1);
+        DUE.is("3: the first ones alone", x.has(5), 51);
+    }
+
+    private static void fields() {
+        BlindSide x = new BlindSide();
+        DUE.is("4: statements", Due.field(x, Due.FIELD), 6);
+        DUE.is("4: no fault", x.fault(0), 0);
+        DUE.is("4: sight", x.sight(9, 2), 3);
+        DUE.is("4: the tape is gone", x.end(1), false);
+        DUE.is("4: refused", Due.field(x, "disc 1 1; disc"), -1);
+        DUE.is("4: the tape is gone", x.end(1), false);
+        DUE.is("4: all stays", x.has(5), 56);
+        DUE.is("4: all stays", x.has(0), 2);
+        DUE.is("4: all stays", x.sight(9, 2), 3);
+        DUE.is("4: the last disc", Due.field(x, "disc 1 1; sight 5 when all; disc 2 7;"), 3);
+        DUE.is("4: the last disc", x.has(5), 86);
+        DUE.is("4: no sight on the disc", x.sight(2, 7), 0);
+        DUE.is("4: sight where a disc was", x.sight(1, 1), 5);
+        DUE.is("4: 40 statements", Due.field(x, "disc 1 1;".repeat(40)), 40);
+        DUE.is("4: an empty text", Due.field(x, " \n "), 0);
+        DUE.is("4: an empty text", x.has(4), 0);
+        DUE.is("4: an empty text", x.has(5), 95);
+        DUE.is("4: blanks", Due.field(x, "\n disc\n1  2\n;thing a 2 ;sight(3)when[all]and not[row=2];"), 3);
+        DUE.is("4: blanks", x.has(4), 84);
+    }
+
+    private static void fieldTakesTrialsAndPlan() {
+        BlindSide x = Due.with(Due.FIELD, Due.LAW);
+        Due.plan(x, "show cross 0 0 9;");
+        x.trial(0, 0, 0, 9, 0, 0, true, 1);
+        x.chair(1, 1, true);
+        DUE.is("4: refused", Due.field(x, "disc 12 0;"), -1);
+        DUE.is("4: trials stay", x.has(2), 1);
+        DUE.is("6: the plan stays", x.has(9), 1);
+        DUE.is("4: taken", Due.field(x, Due.FIELD), 6);
+        DUE.is("4: no trials", x.has(2), 0);
+        DUE.is("6: no plan", x.has(9), 0);
+        DUE.is("6: no plan", x.run(0, 1), -1);
+        DUE.is("4: laws stay", x.has(1), 1);
+        DUE.is("4: chairs stay", x.has(3), 1);
+    }
+
+    private static void laws() {
+        BlindSide x = Due.with(Due.FIELD);
+        DUE.is("5: law 1", Due.law(x, 1, Due.LAW), 4);
+        DUE.is("5: one law", x.has(1), 1);
+        DUE.is("5: its ways", x.has(7), 3);
+        DUE.is("5: in its place", Due.law(x, 1, Due.SURE), 2);
+        DUE.is("5: one law", x.has(1), 1);
+        DUE.is("5: its ways", x.has(7), 1);
+        DUE.is("5: refused", Due.law(x, 1, "way a knows 1 when;"), -1);
+        DUE.is("5: all stays", x.has(7), 1);
+        DUE.is("5: fault", x.fault(0), 1);
+        DUE.is("5: fault", x.fault(1), 18);
+        DUE.is("5: no such number", Due.law(x, 3, Due.SURE), -2);
+        DUE.is("5: the tape is gone", x.end(1), false);
+        DUE.is("5: no such number", Due.law(x, -1, "x"), -2);
+        DUE.is("5: no fault told", x.fault(1), 18);
+        DUE.is("5: an empty law", Due.law(x, 2, ""), 0);
+        DUE.is("5: it is one", x.has(1), 2);
+        DUE.is("5: trials stay", x.trial(0, 0, 0, 9, 0, 0, true, 1), 1);
+        DUE.is("5: law 0", Due.law(x, 0, "line 1 when all;".repeat(40)), 40);
+        DUE.is("5: trials stay", x.has(2), 1);
+    }
+
+    private static void plans() {
+        BlindSide x = Due.with(Due.FIELD, Due.LAW);
+        DUE.is("6: statements, those in brackets too", Due.plan(x, "show face 1 2 3;times 2 [show cross 0 0 1;times 3[];];"), 4);
+        DUE.is("6: showings", x.has(9), 3);
+        DUE.is("6: refused", Due.plan(x, "show face 1 2;"), -1);
+        DUE.is("6: the tape is gone", x.end(1), false);
+        DUE.is("6: all stays", x.has(9), 3);
+        DUE.is("6: an empty plan", Due.plan(x, ""), 0);
+        DUE.is("6: an empty plan", x.has(9), 0);
+        DUE.is("6: an empty plan runs", x.run(0, 1), 0);
+        DUE.is("6: a million at most", Due.plan(x, "times 9[".repeat(6) + "show face 1 2 3;show face 1 2 3;" + "];".repeat(6)), 8);
+        DUE.is("6: a million at most", x.has(9), 1000000);
+        DUE.is("6: below a million", Due.plan(x, "times 9[".repeat(6) + "show face 1 2 3;" + "];".repeat(6)), 7);
+        DUE.is("6: below a million", x.has(9), 531441);
+    }
+
+    private static void refuses(int sort, String text, int fault, int place) {
+        BlindSide x = Due.with("thing face 4; thing abcdef 2;");
+        Due.feed(x, text);
+        int answer = sort == 0 ? x.field() : sort == 1 ? x.law(0) : x.plan();
+        DUE.is("refused: " + text, answer, -1);
+        DUE.is("fault of: " + text, x.fault(0), fault);
+        DUE.is("place in: " + text, x.fault(1), place);
+    }
+
+    private static void takes(int sort, String text, int statements) {
+        BlindSide x = Due.with("thing face 4; thing abcdef 2;");
+        Due.feed(x, text);
+        DUE.is("taken: " + text, sort == 0 ? x.field() : sort == 1 ? x.law(0) : x.plan(), statements);
+        DUE.is("fault of: " + text, x.fault(0), 0);
+        DUE.is("place in: " + text, x.fault(1), -1);
+    }
+
+    private static void faultsOfFields() {
+        refuses(0, "x;", 1, 0);
+        refuses(0, " Sight 1 when all;", 1, 1);
+        refuses(0, "way a knows 1 when all;", 1, 0);
+        refuses(0, "sigh 1 when all;", 1, 0);
+        refuses(0, "sightx 1 when all;", 1, 0);
+        refuses(0, "sight", 1, 5);
+        refuses(0, "sight 1 when all  ", 1, 18);
+        refuses(0, ";", 1, 0);
+        refuses(0, "disc 1 1;;", 1, 9);
+        refuses(0, "disc 1\t1;", 1, 6);
+        refuses(0, "disc 1 1 1;", 1, 9);
+        refuses(0, "disc 11 7", 1, 9);
+        refuses(0, "disc x 7;", 1, 5);
+        refuses(0, "disc 12 7;", 2, 5);
+        refuses(0, "disc 11 8;", 2, 8);
+        refuses(0, "disc 00012 8;", 1, 9);
+        refuses(0, "disc5 5;", 1, 4);
+        refuses(0, "thing 3 3;", 1, 6);
+        refuses(0, "thing max 3;", 1, 6);
+        refuses(0, "thing abcdefgh 3;", 1, 12);
+        refuses(0, "thing columns 3;", 1, 12);
+        refuses(0, "thing aB 3;", 1, 7);
+        refuses(0, "thing a3;", 1, 7);
+        refuses(0, "thing a 1;", 2, 8);
+        refuses(0, "thing a 7;", 2, 8);
+        refuses(0, "thing a 3; thing a 9;", 3, 17);
+        refuses(0, "thing a 2;thing b 2;thing c 2;thing d 2;thing e 2; thing", 5, 51);
+        takes(0, "disc 0011 7;thing a 2;thing ab 6;thing abcdef 3;thing d 2;thing alls 2;", 6);
+        takes(0, "thing a 2;thing b 2;thing c 2;thing d 2;thing e 2;disc 1 1;", 6);
+    }
+
+    private static void faultsOfSums() {
+        refuses(0, "sight when all;", 1, 6);
+        refuses(0, "sight 12345 when all;", 1, 10);
+        refuses(0, "sight 3when all;", 1, 7);
+        refuses(0, "sight3 when all;", 1, 5);
+        refuses(0, "sight 1 2 when all;", 1, 8);
+        refuses(0, "sight 1 + when all;", 1, 10);
+        refuses(0, "sight 1 * ; when all;", 1, 10);
+        refuses(0, "sight -1 when all;", 1, 6);
+        refuses(0, "sight (1 when all;", 1, 9);
+        refuses(0, "sight 1) when all;", 1, 7);
+        refuses(0, "sight min 1 when all;", 1, 10);
+        refuses(0, "sight min(1) when all;", 1, 11);
+        refuses(0, "sight max(1,2,3) when all;", 1, 13);
+        refuses(0, "sight face when all;", 1, 6);
+        refuses(0, "sight 1 when;", 1, 12);
+        refuses(0, "sight 1 when 1;", 1, 14);
+        refuses(0, "sight 1 when 1 < 2 < 3;", 1, 19);
+        refuses(0, "sight 1 when (1 < 2);", 1, 16);
+        refuses(0, "sight 1 when [1 < 2;", 1, 19);
+        refuses(0, "sight 1 when [1 < 2);", 1, 19);
+        refuses(0, "sight 1 when all or;", 1, 19);
+        refuses(0, "sight 1 when all and or;", 1, 21);
+        refuses(0, "sight 1 when not;", 1, 16);
+        refuses(0, "sight 1 when all not all;", 1, 17);
+        refuses(0, "sight 1 when 1 ! 2;", 1, 15);
+        takes(0, "sight 0001+column*row/bright-sight-light-kind when(1)<2 or 1>2 and 1=2;", 1);
+        takes(0, "sight min(1,max(2,3))when not not all and[all or all];", 1);
+    }
+
+    private static void faultsOfDepth() {
+        takes(0, "sight " + "(".repeat(6) + "1" + ")".repeat(6) + REST, 1);
+        refuses(0, "sight " + "(".repeat(7) + "1" + ")".repeat(7) + REST, 4, 12);
+        refuses(0, "sight " + "(".repeat(6) + "min(1,2)", 4, 15);
+        refuses(0, "sight " + "(".repeat(5) + "min(1,max(1,2))", 4, 20);
+        takes(0, "sight " + "(".repeat(5) + "min(1,2)+max(1,2)" + ")".repeat(5) + REST, 1);
+        takes(0, "sight 1 when " + "not ".repeat(6) + "all and " + "not ".repeat(6) + "all;", 1);
+        refuses(0, "sight 1 when " + "not ".repeat(7) + "all;", 4, 37);
+        refuses(0, "sight 1 when not [not [not (1) = (((1", 4, 34);
+        refuses(0, "sight 1 when not [not [not (1)=(1) and (((1", 4, 41);
+        takes(0, "sight 1 when [[[[[[all]]]]]] and [[[not ((1))=((1))]]];", 1);
+        refuses(0, "sight 1 when [[[[[[[all]]]]]]];", 4, 19);
+        takes(2, "times 1[".repeat(6) + "];".repeat(6), 6);
+        refuses(2, "times 1[".repeat(7) + "];".repeat(7), 4, 55);
+        takes(2, "times 1[".repeat(5) + "show face 1 1 (1);" + "];".repeat(5), 6);
+        refuses(2, "times 1[".repeat(5) + "show face 1 1 ((1));" + "];".repeat(5), 4, 55);
+        refuses(2, "times 1[".repeat(6) + "show face 1 1 (1);" + "];".repeat(6), 4, 62);
+    }
+
+    private static void faultsOfLaws() {
+        refuses(1, "sight 1 when all;", 1, 0);
+        refuses(1, "way knows knows 1 when all;", 1, 4);
+        refuses(1, "way a sees 1 when all;", 1, 6);
+        refuses(1, "way a knows1 when all;", 1, 11);
+        refuses(1, "way abcdefg knows 1 when all;", 1, 10);
+        refuses(1, "way a knows 1 when all;way a blind 1 when all;", 3, 27);
+        refuses(1, "line 1 when all;line", 1, 20);
+        refuses(1, "way a knows 1 when all", 1, 22);
+        String five = "way a knows 1 when all;way b knows 1 when all;way c knows 1 when all;way d knows 1 when all;way e knows 1 when all;";
+        takes(1, five + "line 1 when all;", 6);
+        refuses(1, five + " way f", 5, 116);
+        takes(1, "way face knows 1 when all;", 1);
+    }
+
+    private static void faultsOfPlans() {
+        refuses(2, "show times", 1, 5);
+        refuses(2, "show x 0 0 5;", 3, 5);
+        refuses(2, "show abcdefg 0 0 5;", 1, 11);
+        refuses(2, "show abcde 0 0 5;", 3, 5);
+        refuses(2, "show face 12", 2, 10);
+        refuses(2, "show face 0 8", 2, 12);
+        refuses(2, "show face 0 0 ;", 1, 14);
+        refuses(2, "show face 0 0bright;", 1, 13);
+        refuses(2, "times 10 [", 2, 6);
+        refuses(2, "times 0 [", 2, 6);
+        refuses(2, "times 2 show", 1, 8);
+        refuses(2, "times 2 (", 1, 8);
+        refuses(2, "times 2 [x", 1, 9);
+        refuses(2, "times 2 [", 1, 9);
+        refuses(2, "times 2 []", 1, 10);
+        refuses(2, "times 2 [times 1 []];", 1, 19);
+        refuses(2, "];", 1, 0);
+        refuses(2, "show face 1 1 1;]", 1, 16);
+        takes(2, "show abcdef 11 7 bright;times 9[];", 2);
+    }
+
+    private static void tooManyStatements() {
+        refuses(0, "disc 1 1;".repeat(40) + " ?", 5, 361);
+        refuses(0, "disc 1 1;".repeat(40) + "disc 1 1;", 5, 360);
+        refuses(1, "line 1 when all;".repeat(40) + "]", 5, 640);
+        takes(1, "line 1 when all;".repeat(40) + " \n", 40);
+        refuses(2, "times 1[];".repeat(40) + "]", 5, 400);
+        refuses(2, "times 1[" + "times 1[];".repeat(39) + "x", 5, 398);
+        refuses(2, "times 1[" + "times 1[];".repeat(39) + " ", 1, 399);
+        refuses(2, "times 1[" + "times 1[];".repeat(39) + "];x", 5, 400);
+        takes(2, "times 1[" + "times 1[];".repeat(39) + "];", 40);
+    }
+
+    private static void latestFault() {
+        BlindSide x = new BlindSide();
+        DUE.is("7: ahead of any", x.fault(0), 0);
+        DUE.is("7: ahead of any", x.fault(1), -1);
+        DUE.is("7: another what", x.fault(2), -1);
+        DUE.is("7: another what", x.fault(-1), -1);
+        Due.field(x, "disc 1 9;");
+        DUE.is("7: of field", x.fault(0), 2);
+        DUE.is("7: of field", x.fault(1), 7);
+        Due.law(x, 0, "line 1 when all;");
+        DUE.is("7: of law", x.fault(0), 0);
+        DUE.is("7: of law", x.fault(1), -1);
+        Due.plan(x, "show a");
+        DUE.is("7: of plan", x.fault(0), 3);
+        DUE.is("7: of plan", x.fault(1), 5);
+        Due.feed(x, "x");
+        x.on();
+        DUE.is("7: an image has none", x.fault(0), 3);
+    }
+
+    private static void having() {
+        BlindSide x = Due.with(Due.FIELD, Due.LAW, Due.EYE, "line 1 when all;");
+        x.chair(3, 3, true);
+        x.trial(0, 0, 0, 9, 0, 0, true, 1);
+        Due.plan(x, "times 4[show cross 1 1 1;];");
+        int[] has = {2, 3, 1, 1, 50, 56, 3, 1, 0, 4};
+        for (int what = 0; what < has.length; what++) {
+            DUE.is("8: has(" + what + ")", x.has(what), has[what]);
+        }
+        DUE.is("8: others", x.has(10), -1);
+        DUE.is("8: others", x.has(-1), -1);
+    }
+
+    private static void letters() {
+        BlindSide x = Due.with("thing az 2; thing abcdef 3;", "way zoo knows 1 when all;");
+        int[] az = {1, 26, 0, 0, 0, 0};
+        for (int k = 0; k < 6; k++) {
+            DUE.is("9: az " + k, x.letter(-1, 0, k), az[k]);
+            DUE.is("9: abcdef " + k, x.letter(-1, 1, k), k + 1);
+        }
+        DUE.is("9: zoo", x.letter(0, 0, 0), 26);
+        DUE.is("9: zoo", x.letter(0, 0, 2), 15);
+        DUE.is("9: behind it", x.letter(0, 0, 3), 0);
+        DUE.is("9: no such letter", x.letter(0, 0, 6), -1);
+        DUE.is("9: no such letter", x.letter(0, 0, -1), -1);
+        DUE.is("9: no such way", x.letter(0, 1, 0), -1);
+        DUE.is("9: no such thing", x.letter(-1, 2, 0), -1);
+        DUE.is("9: no such thing", x.letter(-1, -1, 0), -1);
+        DUE.is("9: no such law", x.letter(1, 0, 0), -1);
+        DUE.is("9: no such law", x.letter(-2, 0, 0), -1);
+        DUE.is("9: no such law", x.letter(3, 0, 0), -1);
+    }
+}
