@@ -1290,7 +1290,9 @@ public final class BlindSide {
         }
 
         private void step() {
-            here = Math.min(here + 1, lexer.size - 1);
+            if (here < lexer.size - 1) {
+                here++;
+            }
             kind = lexer.kinds[here];
             value = lexer.values[here];
             at = lexer.places[here];
@@ -1344,23 +1346,20 @@ public final class BlindSide {
             switch (statement.word) {
                 case DISC: return readSquare(statement);
                 case THING: return readNewName() && readNumber(statement, 2, 6);
-                case WAY: return readWay(statement);
+                case WAY: return readNewName() && readKnows(statement) && readRule(statement);
                 case SHOW: return readShow(statement, open);
                 case TIMES: return readTimes(statement, open);
                 default: return readRule(statement);
             }
         }
 
-        private boolean readWay(Statement way) {
-            if (!readNewName()) {
-                return false;
-            }
+        private boolean readKnows(Statement way) {
             if (ownWord != KNOWS && ownWord != BLIND) {
                 return refused(UNFIT, at);
             }
             way.knows = ownWord == KNOWS;
             step();
-            return readRule(way);
+            return true;
         }
 
         private boolean readShow(Statement show, int open) {
@@ -1388,11 +1387,13 @@ public final class BlindSide {
             if (!isSign('[')) {
                 return refused(UNFIT, at);
             }
-            if (!stepsIn(open) || !readStatements(open + 1) || !readSign(']')) {
-                return false;
+            if (open >= OPEN) {
+                return refused(TOO_DEEP, at);
             }
+            step();
+            boolean fits = readStatements(open + 1) && readSign(']');
             times.behind = script.size;
-            return true;
+            return fits;
         }
 
         private boolean readNewName() {
@@ -1494,36 +1495,32 @@ public final class BlindSide {
         }
 
         private boolean readFact(int open) {
+            boolean opens = ownWord == NOT || isSign('[');
+            if (opens && open >= OPEN) {
+                return refused(TOO_DEEP, at);
+            }
             if (ownWord == NOT) {
-                boolean fits = stepsIn(open) && readFact(open + 1);
+                step();
+                boolean fits = readFact(open + 1);
                 script.emit(~NOT);
                 return fits;
             }
-            if (isSign('[')) {
-                return stepsIn(open) && readTest(open + 1) && readSign(']');
+            if (opens) {
+                step();
+                return readTest(open + 1) && readSign(']');
             }
             if (ownWord == ALL) {
                 step();
                 script.emit(1);
                 return true;
             }
-            return readSum(open) && readCompared(open);
-        }
-
-        /** Goes past a ( [ or not, if one more may be open. */
-        private boolean stepsIn(int open) {
-            if (open >= OPEN) {
-                return refused(TOO_DEEP, at);
+            if (!readSum(open)) {
+                return false;
             }
-            step();
-            return true;
-        }
-
-        private boolean readCompared(int open) {
+            int sign = value;
             if (!isSign('<') && !isSign('>') && !isSign('=')) {
                 return refused(UNFIT, at);
             }
-            int sign = value;
             step();
             boolean fits = readSum(open);
             script.emit(~sign);
@@ -1554,29 +1551,37 @@ public final class BlindSide {
 
         private boolean readPart(int open) {
             if (isSign('(')) {
-                return stepsIn(open) && readSum(open + 1) && readSign(')');
+                return readBracket(open, NONE);
+            }
+            if (ownWord == MIN || ownWord == MAX) {
+                int word = ownWord;
+                step();
+                return readBracket(open, word);
             }
             if (Reckoner.isPart(ownWord)) {
                 script.emit(~ownWord);
                 step();
                 return true;
             }
-            if (ownWord == MIN || ownWord == MAX) {
-                return readChoice(open);
-            }
             int number = takenNumber(0, MOST_NUMBER);
             script.emit(number);
             return number != NONE;
         }
 
-        private boolean readChoice(int open) {
-            int word = ownWord;
-            step();
+        /** ( SUM ), or behind min and max ( SUM , SUM ). */
+        private boolean readBracket(int open, int word) {
             if (!isSign('(')) {
                 return refused(UNFIT, at);
             }
-            boolean fits = stepsIn(open) && readSum(open + 1) && readSign(',') && readSum(open + 1);
-            script.emit(~word);
+            if (open >= OPEN) {
+                return refused(TOO_DEEP, at);
+            }
+            step();
+            boolean fits = readSum(open + 1);
+            if (word != NONE) {
+                fits = fits && readSign(',') && readSum(open + 1);
+                script.emit(~word);
+            }
             return fits && readSign(')');
         }
     }
@@ -1591,7 +1596,6 @@ public final class BlindSide {
         /** What column, row, bright, sight, light and kind tell, by the numbers of these words. */
         private final int[] seen = new int[OWN];
         private final int[] stack = new int[STACK];
-        private int top;
 
         private static boolean isPart(int word) {
             return word == SIGHT || word >= COLUMN && word <= KIND;
@@ -1609,37 +1613,22 @@ public final class BlindSide {
         }
 
         private int reckon(int[] code, int from, int behind) {
-            top = 0;
+            int top = 0;
             for (int i = Math.max(0, from); i < behind && i < code.length; i++) {
                 int mark = code[i];
                 int word = ~mark;
-                if (mark >= 0) {
-                    push(mark);
-                } else if (isPart(word)) {
-                    push(seen[word]);
-                } else if (word == NOT) {
-                    push(1 - pop());
-                } else {
-                    int right = pop();
-                    push(joined(word, pop(), right));
+                boolean tells = mark >= 0 || isPart(word);
+                if (tells && top < STACK) {
+                    stack[top] = mark >= 0 ? mark : seen[word];
+                    top++;
+                } else if (word == NOT && top > 0) {
+                    stack[top - 1] = 1 - stack[top - 1];
+                } else if (top > 1) {
+                    top--;
+                    stack[top - 1] = joined(word, stack[top - 1], stack[top]);
                 }
             }
-            return pop();
-        }
-
-        private void push(int number) {
-            if (top < STACK) {
-                stack[top] = number;
-                top++;
-            }
-        }
-
-        private int pop() {
-            if (top == 0) {
-                return 0;
-            }
-            top--;
-            return stack[top];
+            return top > 0 ? stack[top - 1] : 0;
         }
 
         /** A million times a million is more than an int holds. */

@@ -8,6 +8,7 @@ public final class FieldTest {
         tests();
         pieces();
         likePieces();
+        piecesInTurn();
         lights();
         DUE.end();
     }
@@ -129,6 +130,22 @@ public final class FieldTest {
         DUE.is("12: the second is the seen side", late.pieceHas(1, 2), 0);
     }
 
+    private static void piecesInTurn() {
+        BlindSide x = Due.with("sight 1 when row = 0 and column = 5 or row = 1 and column > 2 and column < 6 or row = 2 and column = 3;");
+        DUE.is("11: to the left and down", x.piece(3, 2), 0);
+        DUE.is("12: to the left and down", x.pieceHas(0, 0), 5);
+        Due.field(x, "sight 1 when column = 1 and row = 3 or column = 0 and row = 4 or column = 1 and row = 4;");
+        DUE.is("11: the first column too", x.piece(0, 4), 0);
+        DUE.is("12: of the latest field", x.pieceHas(0, 0), 3);
+        DUE.is("12: of the latest field", x.pieceHas(0, 2), 0);
+        Due.field(x, "sight 1 when column = 5;");
+        Due.field(x, "sight 1 when column = 5 and row = 0 or column = 7 and row < 2;");
+        DUE.is("12: the seen side of the latest field", x.pieceHas(0, 2), 1);
+        DUE.is("12: no more of them", x.pieceHas(2, 0), -1);
+        Due.field(x, "");
+        DUE.is("12: none", x.pieceHas(0, 0), -1);
+    }
+
     private static void lights() {
         BlindSide x = Due.with(Due.FIELD);
         DUE.is("13: on the disc", x.light(8, 4, 90), 9);
@@ -146,6 +163,7 @@ public final class FieldTest {
         DUE.is("13: one column", one.light(4, 3, 99), 49);
         DUE.is("13: both", one.light(5, 4, 99), 16);
         DUE.is("13: far", one.light(11, 7, 99), 1);
+        DUE.is("13: from the first square", Due.with("sight 1 when column + row = 0;").light(1, 0, 90), 5);
         // faint and near against strong and far
         BlindSide two = Due.with("sight 1 when column = 1 and row = 0; sight 9 when column = 4 and row = 0;");
         DUE.is("13: the far one gives more", two.light(2, 0, 90), 18);

@@ -79,6 +79,12 @@ public final class ImageTest {
         DUE.is("46: not said", x.tried(0, 6), 0);
         DUE.is("46: not moved", x.tried(0, 10), 0);
         DUE.is("46: no voice", x.tried(0, 11), -1);
+        DUE.is("46: said", on(x, checked(1, 1, 43, 60, 2, 4, 1, 3, 255)), true);
+        DUE.is("46: said", x.tried(0, 6), 1);
+        DUE.is("46: said, not moved", x.tried(0, 10), 0);
+        DUE.is("46: moved", on(x, checked(1, 1, 43, 60, 2, 4, 2, 3, 255)), true);
+        DUE.is("46: moved, not said", x.tried(0, 6), 0);
+        DUE.is("46: moved", x.tried(0, 10), 1);
         DUE.is("46: without trials", on(x, checked(0)), true);
         DUE.is("46: without trials", x.has(2), 0);
         DUE.is("46: without things", on(new BlindSide(), checked(0)), true);
@@ -118,6 +124,8 @@ public final class ImageTest {
         DUE.is("46: the second cannot be", on(x, checked(2, 0, 43, 60, 1, 0, 3, 3, 1, 0, 96, 60, 1, 0, 3, 3, 1)), false);
         DUE.is("46: nothing came", x.has(2), 0);
         DUE.is("46: no such things", on(new BlindSide(), checked(good)), false);
+        DUE.is("46: no such thing", on(x, checked(1, 2, 0, 0, 0, 0, 0, 0, 255)), false);
+        DUE.is("46: no such things", on(new BlindSide(), checked(1, 0, 0, 0, 0, 0, 0, 0, 255)), false);
     }
 
     private static void full() {

@@ -98,6 +98,12 @@ public final class LawTest {
         DUE.is("16: below 0", x.whole(0, 0, 0, 0, 30, 5, 0, 2), -30);
         DUE.is("16: the nearest", x.whole(0, 0, 0, 0, 90, 5, 0, 0), 98);
         DUE.is("16: the nearest", x.whole(0, 0, 0, 0, 90, 5, 0, 1), 49);
+        DUE.is("16: the nearest, not the last looked at", Due.with("thing a 2;",
+                "way j knows 40 when bright = 9; way k knows 90 when bright = 99; way l blind 50 when column = 0;")
+                .whole(0, 0, 0, 0, 50, 1, 1, 1), 40);
+        DUE.is("16: the nearest, not the last looked at", Due.with("thing a 2;",
+                "way j knows 40 when bright = 9; way k knows 90 when bright = 99; way l blind 50 when column = 0;")
+                .whole(0, 0, 0, 0, 50, 1, 1, 2), 40);
         DUE.is("16: the same square", x.whole(0, 0, 0, 3, 17, 0, 3, 0), 17);
         DUE.is("16: of nothing, the least", x.whole(0, 0, 0, 3, 0, 5, 3, 0), 1);
         DUE.is("16: of nothing", x.whole(0, 0, 0, 3, 0, 5, 3, 1), 0);
@@ -144,6 +150,7 @@ public final class LawTest {
         odd(x, 1, 6, true, 9, 40);
         odd(x, 0, 99, true, 1, 1);
         odd(x, 0, 99, false, 0, 1);
+        odd(Due.with("thing a 2;", "way b blind 50 when all;"), 0, 9, true, 3, 4);
         DUE.is("17: no such law", x.odds(1, 0, 0, 0, 5, true, true), -1);
         DUE.is("17: no such thing", x.odds(0, 2, 0, 0, 5, true, true), -1);
         DUE.is("17: no such column", x.odds(0, 0, 12, 0, 5, true, true), -1);
@@ -173,6 +180,9 @@ public final class LawTest {
             }
         }
         DUE.is("18: all is carried", x.draw(0, 1, 0, 0, 99, 2, 77), 2);
+        for (int seed = 0; seed < 9; seed++) {
+            DUE.is("18: by a blind way", Due.with("thing a 6;", "way b blind 100 when all;").draw(0, 0, 0, 0, 9, 3, seed), 3);
+        }
         DUE.is("18: seed below 0", x.draw(0, 0, 0, 0, 5, 0, -1), -1);
         DUE.is("18: no such sort", x.draw(0, 0, 0, 0, 5, 2, 1), -1);
         DUE.is("18: no such sort", x.draw(0, 0, 0, 0, 5, -1, 1), -1);

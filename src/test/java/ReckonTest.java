@@ -46,6 +46,8 @@ public final class ReckonTest {
         }
         DUE.is("31: rounded down each time", y.weight(0), weight);
         DUE.is("32: weight 0 is not thrown out", y.thrown(0), -1);
+        Due.law(y, 0, "way k knows 100 when all;");
+        DUE.is("32: by the first", y.thrown(0), 0);
     }
 
     private static void likely() {
@@ -61,6 +63,8 @@ public final class ReckonTest {
         DUE.is("33: another", x.likely(), 1);
         Due.law(x, 0, "way k knows 100 when all;");
         DUE.is("33: not one that is thrown out", x.likely(), 1);
+        Due.law(x, 0, "way k knows 10 when all;");
+        DUE.is("33: law 0", x.likely(), 0);
         BlindSide y = Due.with("thing a 2;");
         Due.law(y, 1, "way k knows 100 when all;");
         y.trial(0, 0, 0, 50, 1, 0, false, 0);
@@ -130,6 +134,9 @@ public final class ReckonTest {
         DUE.is("37: not those with sight", x.left(), 1);
         x.trial(1, 11, 7, 5, 1, 1, false, 0);
         DUE.is("37: another", x.left(), 2);
+        BlindSide y = Due.with(Due.FIELD);
+        y.trial(0, 8, 4, 90, 1, 0, false, 0);
+        DUE.is("36: the first of all", y.bound(), 9);
         x.moved(6, 5, 1);
         DUE.is("36: where the eye has moved", x.bound(), 9);
         DUE.is("37: on the disc now", x.left(), 2);
@@ -150,7 +157,7 @@ public final class ReckonTest {
         set(x, 0, 0, 0);
         x.trial(0, 0, 0, 9, 1, 1, false, 0);
         set(x, 0, 1, 1);
-        x.trial(0, 1, 0, 9, 1, 1, false, 0);
+        x.trial(0, 1, 0, 1, 1, 1, false, 0);
         set(x, 0, 1, 4);
         x.trial(0, 2, 0, 9, 1, 1, false, 0);
         set(x, 0, 2, 12);

@@ -17,6 +17,8 @@ public final class TextTest {
         faultsOfLaws();
         faultsOfPlans();
         tooManyStatements();
+        longTexts();
+        textsInTurn();
         latestFault();
         having();
         letters();
@@ -231,6 +233,9 @@ public final class TextTest {
         refuses(0, "sight " + "(".repeat(6) + "min(1,2)", 4, 15);
         refuses(0, "sight " + "(".repeat(5) + "min(1,max(1,2))", 4, 20);
         takes(0, "sight " + "(".repeat(5) + "min(1,2)+max(1,2)" + ")".repeat(5) + REST, 1);
+        takes(0, "sight min(" + "(".repeat(5) + "1" + ")".repeat(5) + "," + "(".repeat(5) + "2" + ")".repeat(6) + REST, 1);
+        refuses(0, "sight min(" + "(".repeat(6) + "1" + ")".repeat(6) + ",2)" + REST, 4, 15);
+        refuses(0, "sight max(1," + "(".repeat(6) + "2" + ")".repeat(7) + REST, 4, 17);
         takes(0, "sight 1 when " + "not ".repeat(6) + "all and " + "not ".repeat(6) + "all;", 1);
         refuses(0, "sight 1 when " + "not ".repeat(7) + "all;", 4, 37);
         refuses(0, "sight 1 when not [not [not (1) = (((1", 4, 34);
@@ -293,6 +298,62 @@ public final class TextTest {
         takes(2, "times 1[" + "times 1[];".repeat(39) + "];", 40);
     }
 
+    /** As many signs, words and numbers as a tape can hold. */
+    private static void longTexts() {
+        BlindSide x = Due.with("thing a 2;");
+        String ones = "line 1" + "+1".repeat(42) + " when 1=1" + "/1".repeat(399) + ";";
+        DUE.is("2: a full tape", ones.length(), 898);
+        DUE.is("5: a full tape", Due.law(x, 0, ones + " \n"), 1);
+        DUE.is("5: a full tape", x.carries(0, -3, 0, 0, 0, 5), 43);
+        DUE.is("5: cut off", Due.law(x, 0, ones.substring(0, 897)), -1);
+        DUE.is("5: cut off", x.fault(1), 897);
+        DUE.is("5: signs alone", Due.law(x, 0, "(".repeat(900)), -1);
+        DUE.is("5: signs alone", x.fault(0), 1);
+        DUE.is("5: signs alone", Due.law(x, 0, "line " + "(".repeat(895)), -1);
+        DUE.is("5: signs alone", x.fault(1), 11);
+        StringBuilder lines = new StringBuilder();
+        for (int k = 0; k < 40; k++) {
+            lines.append("line ").append(k).append(" when bright=").append(k).append(';');
+        }
+        DUE.is("5: 40 lines", lines.length(), 900);
+        DUE.is("5: 40 lines", Due.law(x, 0, lines.toString()), 40);
+        for (int k = 0; k < 40; k++) {
+            DUE.is("5: line " + k, x.carries(0, -3, 0, 0, 0, k), k);
+        }
+        StringBuilder shows = new StringBuilder();
+        for (int k = 0; k < 40; k++) {
+            shows.append("show a 1 1 ").append(k).append("+1;");
+        }
+        DUE.is("6: 40 shows", Due.plan(x, shows.toString()), 40);
+        x.run(0, 1);
+        for (int k = 0; k < 40; k++) {
+            DUE.is("6: show " + k, x.tried(k, 3), k + 1);
+        }
+    }
+
+    /** A text leaves nothing behind for those that come after it. */
+    private static void textsInTurn() {
+        BlindSide x = Due.with("thing a 2;", "");
+        for (int turn = 0; turn < 8; turn++) {
+            Due.law(x, turn % 3, "line 1" + "+1".repeat(400) + " when all;");
+            Due.law(x, turn % 3, "way a knows " + turn + "+1 when all;");
+            DUE.is("5: turn " + turn, x.carries(turn % 3, -1, 0, 0, 0, 9), turn + 1);
+        }
+        Due.plan(x, "times 2[show a 1 1 1;show a 1 1 2;];show a 1 1 3;");
+        Due.plan(x, "times 2[show a 1 1 4;show a 1 1 5;];show a 1 1 6;");
+        DUE.is("6: showings", x.has(9), 5);
+        Due.plan(x, "show a 1 1 7;times 2[show a 1 1 8;];show a 1 1 9;show a 1 1 9;");
+        Due.plan(x, "show a 1 1 7;show a 1 1 8;show a 1 1 9;show a 1 1 9;");
+        DUE.is("6: showings", x.has(9), 4);
+        DUE.is("6: run", x.run(0, 4), 4);
+        DUE.is("6: the second", x.tried(1, 3), 8);
+        x.carries(0, -1, 0, 3, 3, 9);
+        DUE.is("4: nothing is shown in a field", Due.field(x, "thing a 2;thing b 2;sight 5 when all;"), 3);
+        x.carries(0, -1, 1, 3, 3, 50);
+        Due.field(x, "sight 2 when bright = 0 and sight = 0 and light = 0 and kind = 0;");
+        DUE.is("4: nothing is shown in a field", x.sight(0, 0), 2);
+    }
+
     private static void latestFault() {
         BlindSide x = new BlindSide();
         DUE.is("7: ahead of any", x.fault(0), 0);
@@ -314,11 +375,11 @@ public final class TextTest {
     }
 
     private static void having() {
-        BlindSide x = Due.with(Due.FIELD, Due.LAW, Due.EYE, "line 1 when all;");
+        BlindSide x = Due.with(Due.FIELD, Due.LAW, Due.EYE, "way a knows 1 when all; line 1 when all; way b blind 1 when all;");
         x.chair(3, 3, true);
         x.trial(0, 0, 0, 9, 0, 0, true, 1);
         Due.plan(x, "times 4[show cross 1 1 1;];");
-        int[] has = {2, 3, 1, 1, 50, 56, 3, 1, 0, 4};
+        int[] has = {2, 3, 1, 1, 50, 56, 3, 1, 2, 4};
         for (int what = 0; what < has.length; what++) {
             DUE.is("8: has(" + what + ")", x.has(what), has[what]);
         }

@@ -88,6 +88,8 @@ public final class TrialTest {
         DUE.is("20: behind those that are there", x.run(1, 2147483647), 9);
         DUE.is("20: behind those that are there", x.has(2), 18);
         expectRun(x, 1, 2147483647L, 9, showings);
+        DUE.is("20: seed 0", x.run(0, 0), 9);
+        expectRun(x, 0, 0, 18, showings);
         DUE.is("20: all is carried, how sure", x.tried(9, 7), 9);
     }
 
@@ -243,6 +245,27 @@ public final class TrialTest {
         DUE.is("26: other things have none", x.chance(2), ALL);
         // 125, 375, 375, 125 of a thousand; then a third of each goes on
         DUE.is("26: of all", x.chance(-1), 375000000000L + 208333333333L + 41666666666L);
+        BlindSide many = Due.with("thing a 6;");
+        for (int i = 0; i < 40; i++) {
+            many.trial(0, 0, 0, 9, 1, i == 0 ? 0 : 1, false, 0);
+        }
+        DUE.is("26: far beyond chance", many.chance(0), 0);
+        for (int i = 0; i < 40; i++) {
+            many.undo();
+        }
+        long[] q = new long[41];
+        q[0] = ALL;
+        for (int i = 0; i < 40; i++) {
+            many.trial(0, 0, 0, 9, 1, i % 4 == 0 ? 1 : 0, false, 0);
+            for (int j = 40; j >= 0; j--) {
+                q[j] = (5 * q[j] + (j == 0 ? 0 : q[j - 1])) / 6;
+            }
+        }
+        long sum = 0;
+        for (int j = 10; j <= 40; j++) {
+            sum += q[j];
+        }
+        DUE.is("26: ten of forty", many.chance(0), sum);
         DUE.is("26: no such thing", x.chance(3), -1);
         DUE.is("26: no such thing", x.chance(-2), -1);
     }
@@ -310,6 +333,8 @@ public final class TrialTest {
         DUE.is("29: not below the line", x.kind(2, 5), 7);
         Due.law(x, 2, "way k blind 40 when all; line 41 when all;");
         DUE.is("29: never known", x.kind(2, 5), 7);
+        Due.law(x, 2, "way k knows 1 when all; line 2 when all;");
+        DUE.is("29: known at all", x.kind(2, 5), 6);
         // LIGHT 5 or more, and LIGHT 4
         x.trial(0, 8, 0, 50, 1, 1, false, 0);
         x.trial(0, 8, 0, 49, 1, 1, false, 0);
