@@ -142,6 +142,8 @@ public final class FieldTest {
         Due.field(x, "sight 1 when column = 5 and row = 0 or column = 7 and row < 2;");
         DUE.is("12: the seen side of the latest field", x.pieceHas(0, 2), 1);
         DUE.is("12: no more of them", x.pieceHas(2, 0), -1);
+        Due.field(x, "sight 1 when column = 5 and row = 0;");
+        DUE.is("12: a small one is the seen side, too", x.pieceHas(0, 2), 0);
         Due.field(x, "");
         DUE.is("12: none", x.pieceHas(0, 0), -1);
     }

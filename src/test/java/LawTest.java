@@ -61,6 +61,8 @@ public final class LawTest {
             DUE.is("14: word " + way, x.carries(0, way, 1, 3, 5, 42), want[way]);
         }
         DUE.is("14: light", x.carries(0, 4, 1, 4, 5, 42), 16);
+        DUE.is("14: the most of five", x.carries(0, -1, 1, 3, 5, 42), 42);
+        DUE.is("14: the most of five", x.carries(0, -2, 1, 3, 5, 4), 7);
         DUE.is("14: kind", x.carries(1, 0, 1, 3, 5, 42), 2);
         DUE.is("14: kind", x.carries(1, 0, 0, 3, 5, 42), 1);
         DUE.is("14: a law by its number", x.carries(1, -2, 0, 3, 5, 42), 0);

@@ -13,6 +13,7 @@ public final class ReckonTest {
         parted();
         nexts();
         nextRefused();
+        undone();
         DUE.end();
     }
 
@@ -172,6 +173,34 @@ public final class ReckonTest {
             y.trial(0, column, 0, 9, 1, 1, false, 0);
         }
         set(y, 0, 5, 31);
+    }
+
+    /** What was undone counts no more, and 40 TRIALS are not too many. */
+    private static void undone() {
+        BlindSide x = Due.with(Due.FIELD, "way k knows bright when column = 0; line 50 when all;", Due.SURE);
+        x.trial(0, 8, 4, 90, 0, 1, true, 0);
+        x.undo();
+        DUE.is("31: undone", x.weight(1), ALL);
+        DUE.is("32: undone", x.thrown(1), -1);
+        DUE.is("34: undone", x.lies(0), 0);
+        span(x, 0, 0, 101);
+        DUE.is("36: undone", x.bound(), 0);
+        x.trial(0, 11, 0, 1, 0, 0, true, 0);
+        x.undo();
+        DUE.is("37: undone", x.left(), 0);
+        set(x, 0, 0, 0);
+        for (int i = 0; i < 40; i++) {
+            x.trial(0, 11, 0, 1, 0, 0, true, 0);
+        }
+        DUE.is("34: 40", x.lies(0), 40);
+        DUE.is("36: 40", x.bound(), 0);
+        DUE.is("37: 40", x.left(), 40);
+        span(x, 0, 0, 0);
+        set(x, 0, -1, -1);
+        set(x, 1, 1, 1);
+        DUE.is("32: 40", x.thrown(1), -1);
+        DUE.is("31: 40", x.weight(1), ALL);
+        DUE.is("30: 40", x.kinds(0, 3), 40);
     }
 
     private static void parted() {

@@ -311,6 +311,8 @@ public final class TextTest {
         DUE.is("5: signs alone", x.fault(0), 1);
         DUE.is("5: signs alone", Due.law(x, 0, "line " + "(".repeat(895)), -1);
         DUE.is("5: signs alone", x.fault(1), 11);
+        Due.law(x, 0, "line 9 when not all;".repeat(39) + "line 8 when all;");
+        DUE.is("5: the last line", x.carries(0, -3, 0, 0, 0, 5), 8);
         StringBuilder lines = new StringBuilder();
         for (int k = 0; k < 40; k++) {
             lines.append("line ").append(k).append(" when bright=").append(k).append(';');
@@ -339,6 +341,11 @@ public final class TextTest {
             Due.law(x, turn % 3, "way a knows " + turn + "+1 when all;");
             DUE.is("5: turn " + turn, x.carries(turn % 3, -1, 0, 0, 0, 9), turn + 1);
         }
+        Due.law(x, 0, "way a knows 1 when all;way b knows 99 when all;");
+        Due.law(x, 1, "way a knows 1 when all;way b knows 99 when all;");
+        Due.law(x, 2, "way a knows 1 when all;way b knows 99 when all;");
+        Due.law(x, 0, "way a knows 1 when all;line 1 when all;");
+        DUE.is("5: no way of an earlier one", x.carries(0, -1, 0, 0, 0, 9), 1);
         Due.plan(x, "times 2[show a 1 1 1;show a 1 1 2;];show a 1 1 3;");
         Due.plan(x, "times 2[show a 1 1 4;show a 1 1 5;];show a 1 1 6;");
         DUE.is("6: showings", x.has(9), 5);
