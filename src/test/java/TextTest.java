@@ -148,154 +148,137 @@ public final class TextTest {
         DUE.is("6: below a million", x.has(9), 531441);
     }
 
-    private static void refuses(int sort, String text, int fault, int place) {
-        BlindSide x = Due.with("thing face 4; thing abcdef 2;");
-        Due.feed(x, text);
-        int answer = sort == 0 ? x.field() : sort == 1 ? x.law(0) : x.plan();
-        DUE.is("refused: " + text, answer, -1);
-        DUE.is("fault of: " + text, x.fault(0), fault);
-        DUE.is("place in: " + text, x.fault(1), place);
-    }
-
-    private static void takes(int sort, String text, int statements) {
-        BlindSide x = Due.with("thing face 4; thing abcdef 2;");
-        Due.feed(x, text);
-        DUE.is("taken: " + text, sort == 0 ? x.field() : sort == 1 ? x.law(0) : x.plan(), statements);
-        DUE.is("fault of: " + text, x.fault(0), 0);
-        DUE.is("place in: " + text, x.fault(1), -1);
-    }
-
     private static void faultsOfFields() {
-        refuses(0, "x;", 1, 0);
-        refuses(0, " Sight 1 when all;", 1, 1);
-        refuses(0, "way a knows 1 when all;", 1, 0);
-        refuses(0, "sigh 1 when all;", 1, 0);
-        refuses(0, "sightx 1 when all;", 1, 0);
-        refuses(0, "sight", 1, 5);
-        refuses(0, "sight 1 when all  ", 1, 18);
-        refuses(0, ";", 1, 0);
-        refuses(0, "disc 1 1;;", 1, 9);
-        refuses(0, "disc 1\t1;", 1, 6);
-        refuses(0, "disc 1 1 1;", 1, 9);
-        refuses(0, "disc 11 7", 1, 9);
-        refuses(0, "disc x 7;", 1, 5);
-        refuses(0, "disc 12 7;", 2, 5);
-        refuses(0, "disc 11 8;", 2, 8);
-        refuses(0, "disc 00012 8;", 1, 9);
-        refuses(0, "disc5 5;", 1, 4);
-        refuses(0, "thing 3 3;", 1, 6);
-        refuses(0, "thing max 3;", 1, 6);
-        refuses(0, "thing abcdefgh 3;", 1, 12);
-        refuses(0, "thing columns 3;", 1, 12);
-        refuses(0, "thing aB 3;", 1, 7);
-        refuses(0, "thing a3;", 1, 7);
-        refuses(0, "thing a 1;", 2, 8);
-        refuses(0, "thing a 7;", 2, 8);
-        refuses(0, "thing a 3; thing a 9;", 3, 17);
-        refuses(0, "thing a 2;thing b 2;thing c 2;thing d 2;thing e 2; thing", 5, 51);
-        takes(0, "disc 0011 7;thing a 2;thing ab 6;thing abcdef 3;thing d 2;thing alls 2;", 6);
-        takes(0, "thing a 2;thing b 2;thing c 2;thing d 2;thing e 2;disc 1 1;", 6);
+        DUE.refuses(0, "x;", 1, 0);
+        DUE.refuses(0, " Sight 1 when all;", 1, 1);
+        DUE.refuses(0, "way a knows 1 when all;", 1, 0);
+        DUE.refuses(0, "sigh 1 when all;", 1, 0);
+        DUE.refuses(0, "sightx 1 when all;", 1, 0);
+        DUE.refuses(0, "sight", 1, 5);
+        DUE.refuses(0, "sight 1 when all  ", 1, 18);
+        DUE.refuses(0, ";", 1, 0);
+        DUE.refuses(0, "disc 1 1;;", 1, 9);
+        DUE.refuses(0, "disc 1\t1;", 1, 6);
+        DUE.refuses(0, "disc 1 1 1;", 1, 9);
+        DUE.refuses(0, "disc 11 7", 1, 9);
+        DUE.refuses(0, "disc x 7;", 1, 5);
+        DUE.refuses(0, "disc 12 7;", 2, 5);
+        DUE.refuses(0, "disc 11 8;", 2, 8);
+        DUE.refuses(0, "disc 00012 8;", 1, 9);
+        DUE.refuses(0, "disc5 5;", 1, 4);
+        DUE.refuses(0, "thing 3 3;", 1, 6);
+        DUE.refuses(0, "thing max 3;", 1, 6);
+        DUE.refuses(0, "thing abcdefgh 3;", 1, 12);
+        DUE.refuses(0, "thing columns 3;", 1, 12);
+        DUE.refuses(0, "thing aB 3;", 1, 7);
+        DUE.refuses(0, "thing a3;", 1, 7);
+        DUE.refuses(0, "thing a 1;", 2, 8);
+        DUE.refuses(0, "thing a 7;", 2, 8);
+        DUE.refuses(0, "thing a 3; thing a 9;", 3, 17);
+        DUE.refuses(0, "thing a 2;thing b 2;thing c 2;thing d 2;thing e 2; thing", 5, 51);
+        DUE.takes(0, "disc 0011 7;thing a 2;thing ab 6;thing abcdef 3;thing d 2;thing alls 2;", 6);
+        DUE.takes(0, "thing a 2;thing b 2;thing c 2;thing d 2;thing e 2;disc 1 1;", 6);
     }
 
     private static void faultsOfSums() {
-        refuses(0, "sight when all;", 1, 6);
-        refuses(0, "sight 12345 when all;", 1, 10);
-        refuses(0, "sight 3when all;", 1, 7);
-        refuses(0, "sight3 when all;", 1, 5);
-        refuses(0, "sight 1 2 when all;", 1, 8);
-        refuses(0, "sight 1 + when all;", 1, 10);
-        refuses(0, "sight 1 * ; when all;", 1, 10);
-        refuses(0, "sight -1 when all;", 1, 6);
-        refuses(0, "sight (1 when all;", 1, 9);
-        refuses(0, "sight 1) when all;", 1, 7);
-        refuses(0, "sight min 1 when all;", 1, 10);
-        refuses(0, "sight min(1) when all;", 1, 11);
-        refuses(0, "sight max(1,2,3) when all;", 1, 13);
-        refuses(0, "sight face when all;", 1, 6);
-        refuses(0, "sight 1 when;", 1, 12);
-        refuses(0, "sight 1 when 1;", 1, 14);
-        refuses(0, "sight 1 when 1 < 2 < 3;", 1, 19);
-        refuses(0, "sight 1 when (1 < 2);", 1, 16);
-        refuses(0, "sight 1 when [1 < 2;", 1, 19);
-        refuses(0, "sight 1 when [1 < 2);", 1, 19);
-        refuses(0, "sight 1 when all or;", 1, 19);
-        refuses(0, "sight 1 when all and or;", 1, 21);
-        refuses(0, "sight 1 when not;", 1, 16);
-        refuses(0, "sight 1 when all not all;", 1, 17);
-        refuses(0, "sight 1 when 1 ! 2;", 1, 15);
-        takes(0, "sight 0001+column*row/bright-sight-light-kind when(1)<2 or 1>2 and 1=2;", 1);
-        takes(0, "sight min(1,max(2,3))when not not all and[all or all];", 1);
+        DUE.refuses(0, "sight when all;", 1, 6);
+        DUE.refuses(0, "sight 12345 when all;", 1, 10);
+        DUE.refuses(0, "sight 3when all;", 1, 7);
+        DUE.refuses(0, "sight3 when all;", 1, 5);
+        DUE.refuses(0, "sight 1 2 when all;", 1, 8);
+        DUE.refuses(0, "sight 1 + when all;", 1, 10);
+        DUE.refuses(0, "sight 1 * ; when all;", 1, 10);
+        DUE.refuses(0, "sight -1 when all;", 1, 6);
+        DUE.refuses(0, "sight (1 when all;", 1, 9);
+        DUE.refuses(0, "sight 1) when all;", 1, 7);
+        DUE.refuses(0, "sight min 1 when all;", 1, 10);
+        DUE.refuses(0, "sight min(1) when all;", 1, 11);
+        DUE.refuses(0, "sight max(1,2,3) when all;", 1, 13);
+        DUE.refuses(0, "sight face when all;", 1, 6);
+        DUE.refuses(0, "sight 1 when;", 1, 12);
+        DUE.refuses(0, "sight 1 when 1;", 1, 14);
+        DUE.refuses(0, "sight 1 when 1 < 2 < 3;", 1, 19);
+        DUE.refuses(0, "sight 1 when (1 < 2);", 1, 16);
+        DUE.refuses(0, "sight 1 when [1 < 2;", 1, 19);
+        DUE.refuses(0, "sight 1 when [1 < 2);", 1, 19);
+        DUE.refuses(0, "sight 1 when all or;", 1, 19);
+        DUE.refuses(0, "sight 1 when all and or;", 1, 21);
+        DUE.refuses(0, "sight 1 when not;", 1, 16);
+        DUE.refuses(0, "sight 1 when all not all;", 1, 17);
+        DUE.refuses(0, "sight 1 when 1 ! 2;", 1, 15);
+        DUE.takes(0, "sight 0001+column*row/bright-sight-light-kind when(1)<2 or 1>2 and 1=2;", 1);
+        DUE.takes(0, "sight min(1,max(2,3))when not not all and[all or all];", 1);
     }
 
     private static void faultsOfDepth() {
-        takes(0, "sight " + "(".repeat(6) + "1" + ")".repeat(6) + REST, 1);
-        refuses(0, "sight " + "(".repeat(7) + "1" + ")".repeat(7) + REST, 4, 12);
-        refuses(0, "sight " + "(".repeat(6) + "min(1,2)", 4, 15);
-        refuses(0, "sight " + "(".repeat(5) + "min(1,max(1,2))", 4, 20);
-        takes(0, "sight " + "(".repeat(5) + "min(1,2)+max(1,2)" + ")".repeat(5) + REST, 1);
-        takes(0, "sight min(" + "(".repeat(5) + "1" + ")".repeat(5) + "," + "(".repeat(5) + "2" + ")".repeat(6) + REST, 1);
-        refuses(0, "sight min(" + "(".repeat(6) + "1" + ")".repeat(6) + ",2)" + REST, 4, 15);
-        refuses(0, "sight max(1," + "(".repeat(6) + "2" + ")".repeat(7) + REST, 4, 17);
-        takes(0, "sight 1 when " + "not ".repeat(6) + "all and " + "not ".repeat(6) + "all;", 1);
-        refuses(0, "sight 1 when " + "not ".repeat(7) + "all;", 4, 37);
-        refuses(0, "sight 1 when not [not [not (1) = (((1", 4, 34);
-        refuses(0, "sight 1 when not [not [not (1)=(1) and (((1", 4, 41);
-        takes(0, "sight 1 when [[[[[[all]]]]]] and [[[not ((1))=((1))]]];", 1);
-        refuses(0, "sight 1 when [[[[[[[all]]]]]]];", 4, 19);
-        takes(2, "times 1[".repeat(6) + "];".repeat(6), 6);
-        refuses(2, "times 1[".repeat(7) + "];".repeat(7), 4, 55);
-        takes(2, "times 1[".repeat(5) + "show face 1 1 (1);" + "];".repeat(5), 6);
-        refuses(2, "times 1[".repeat(5) + "show face 1 1 ((1));" + "];".repeat(5), 4, 55);
-        refuses(2, "times 1[".repeat(6) + "show face 1 1 (1);" + "];".repeat(6), 4, 62);
+        DUE.takes(0, "sight " + "(".repeat(6) + "1" + ")".repeat(6) + REST, 1);
+        DUE.refuses(0, "sight " + "(".repeat(7) + "1" + ")".repeat(7) + REST, 4, 12);
+        DUE.refuses(0, "sight " + "(".repeat(6) + "min(1,2)", 4, 15);
+        DUE.refuses(0, "sight " + "(".repeat(5) + "min(1,max(1,2))", 4, 20);
+        DUE.takes(0, "sight " + "(".repeat(5) + "min(1,2)+max(1,2)" + ")".repeat(5) + REST, 1);
+        DUE.takes(0, "sight min(" + "(".repeat(5) + "1" + ")".repeat(5) + "," + "(".repeat(5) + "2" + ")".repeat(6) + REST, 1);
+        DUE.refuses(0, "sight min(" + "(".repeat(6) + "1" + ")".repeat(6) + ",2)" + REST, 4, 15);
+        DUE.refuses(0, "sight max(1," + "(".repeat(6) + "2" + ")".repeat(7) + REST, 4, 17);
+        DUE.takes(0, "sight 1 when " + "not ".repeat(6) + "all and " + "not ".repeat(6) + "all;", 1);
+        DUE.refuses(0, "sight 1 when " + "not ".repeat(7) + "all;", 4, 37);
+        DUE.refuses(0, "sight 1 when not [not [not (1) = (((1", 4, 34);
+        DUE.refuses(0, "sight 1 when not [not [not (1)=(1) and (((1", 4, 41);
+        DUE.takes(0, "sight 1 when [[[[[[all]]]]]] and [[[not ((1))=((1))]]];", 1);
+        DUE.refuses(0, "sight 1 when [[[[[[[all]]]]]]];", 4, 19);
+        DUE.takes(2, "times 1[".repeat(6) + "];".repeat(6), 6);
+        DUE.refuses(2, "times 1[".repeat(7) + "];".repeat(7), 4, 55);
+        DUE.takes(2, "times 1[".repeat(5) + "show face 1 1 (1);" + "];".repeat(5), 6);
+        DUE.refuses(2, "times 1[".repeat(5) + "show face 1 1 ((1));" + "];".repeat(5), 4, 55);
+        DUE.refuses(2, "times 1[".repeat(6) + "show face 1 1 (1);" + "];".repeat(6), 4, 62);
     }
 
     private static void faultsOfLaws() {
-        refuses(1, "sight 1 when all;", 1, 0);
-        refuses(1, "way knows knows 1 when all;", 1, 4);
-        refuses(1, "way a sees 1 when all;", 1, 6);
-        refuses(1, "way a knows1 when all;", 1, 11);
-        refuses(1, "way abcdefg knows 1 when all;", 1, 10);
-        refuses(1, "way a knows 1 when all;way a blind 1 when all;", 3, 27);
-        refuses(1, "line 1 when all;line", 1, 20);
-        refuses(1, "way a knows 1 when all", 1, 22);
+        DUE.refuses(1, "sight 1 when all;", 1, 0);
+        DUE.refuses(1, "way knows knows 1 when all;", 1, 4);
+        DUE.refuses(1, "way a sees 1 when all;", 1, 6);
+        DUE.refuses(1, "way a knows1 when all;", 1, 11);
+        DUE.refuses(1, "way abcdefg knows 1 when all;", 1, 10);
+        DUE.refuses(1, "way a knows 1 when all;way a blind 1 when all;", 3, 27);
+        DUE.refuses(1, "line 1 when all;line", 1, 20);
+        DUE.refuses(1, "way a knows 1 when all", 1, 22);
         String five = "way a knows 1 when all;way b knows 1 when all;way c knows 1 when all;way d knows 1 when all;way e knows 1 when all;";
-        takes(1, five + "line 1 when all;", 6);
-        refuses(1, five + " way f", 5, 116);
-        takes(1, "way face knows 1 when all;", 1);
+        DUE.takes(1, five + "line 1 when all;", 6);
+        DUE.refuses(1, five + " way f", 5, 116);
+        DUE.takes(1, "way face knows 1 when all;", 1);
     }
 
     private static void faultsOfPlans() {
-        refuses(2, "show times", 1, 5);
-        refuses(2, "show x 0 0 5;", 3, 5);
-        refuses(2, "show abcdefg 0 0 5;", 1, 11);
-        refuses(2, "show abcde 0 0 5;", 3, 5);
-        refuses(2, "show face 12", 2, 10);
-        refuses(2, "show face 0 8", 2, 12);
-        refuses(2, "show face 0 0 ;", 1, 14);
-        refuses(2, "show face 0 0bright;", 1, 13);
-        refuses(2, "times 10 [", 2, 6);
-        refuses(2, "times 0 [", 2, 6);
-        refuses(2, "times 2 show", 1, 8);
-        refuses(2, "times 2 (", 1, 8);
-        refuses(2, "times 2 [x", 1, 9);
-        refuses(2, "times 2 [", 1, 9);
-        refuses(2, "times 2 []", 1, 10);
-        refuses(2, "times 2 [times 1 []];", 1, 19);
-        refuses(2, "];", 1, 0);
-        refuses(2, "show face 1 1 1;]", 1, 16);
-        takes(2, "show abcdef 11 7 bright;times 9[];", 2);
+        DUE.refuses(2, "show times", 1, 5);
+        DUE.refuses(2, "show x 0 0 5;", 3, 5);
+        DUE.refuses(2, "show abcdefg 0 0 5;", 1, 11);
+        DUE.refuses(2, "show abcde 0 0 5;", 3, 5);
+        DUE.refuses(2, "show face 12", 2, 10);
+        DUE.refuses(2, "show face 0 8", 2, 12);
+        DUE.refuses(2, "show face 0 0 ;", 1, 14);
+        DUE.refuses(2, "show face 0 0bright;", 1, 13);
+        DUE.refuses(2, "times 10 [", 2, 6);
+        DUE.refuses(2, "times 0 [", 2, 6);
+        DUE.refuses(2, "times 2 show", 1, 8);
+        DUE.refuses(2, "times 2 (", 1, 8);
+        DUE.refuses(2, "times 2 [x", 1, 9);
+        DUE.refuses(2, "times 2 [", 1, 9);
+        DUE.refuses(2, "times 2 []", 1, 10);
+        DUE.refuses(2, "times 2 [times 1 []];", 1, 19);
+        DUE.refuses(2, "];", 1, 0);
+        DUE.refuses(2, "show face 1 1 1;]", 1, 16);
+        DUE.takes(2, "show abcdef 11 7 bright;times 9[];", 2);
     }
 
     private static void tooManyStatements() {
-        refuses(0, "disc 1 1;".repeat(40) + " ?", 5, 361);
-        refuses(0, "disc 1 1;".repeat(40) + "disc 1 1;", 5, 360);
-        refuses(1, "line 1 when all;".repeat(40) + "]", 5, 640);
-        takes(1, "line 1 when all;".repeat(40) + " \n", 40);
-        refuses(2, "times 1[];".repeat(40) + "]", 5, 400);
-        refuses(2, "times 1[" + "times 1[];".repeat(39) + "x", 5, 398);
-        refuses(2, "times 1[" + "times 1[];".repeat(39) + " ", 1, 399);
-        refuses(2, "times 1[" + "times 1[];".repeat(39) + "];x", 5, 400);
-        takes(2, "times 1[" + "times 1[];".repeat(39) + "];", 40);
+        DUE.refuses(0, "disc 1 1;".repeat(40) + " ?", 5, 361);
+        DUE.refuses(0, "disc 1 1;".repeat(40) + "disc 1 1;", 5, 360);
+        DUE.refuses(1, "line 1 when all;".repeat(40) + "]", 5, 640);
+        DUE.takes(1, "line 1 when all;".repeat(40) + " \n", 40);
+        DUE.refuses(2, "times 1[];".repeat(40) + "]", 5, 400);
+        DUE.refuses(2, "times 1[" + "times 1[];".repeat(39) + "x", 5, 398);
+        DUE.refuses(2, "times 1[" + "times 1[];".repeat(39) + " ", 1, 399);
+        DUE.refuses(2, "times 1[" + "times 1[];".repeat(39) + "];x", 5, 400);
+        DUE.takes(2, "times 1[" + "times 1[];".repeat(39) + "];", 40);
     }
 
     /** As many signs, words and numbers as a tape can hold. */
@@ -354,6 +337,13 @@ public final class TextTest {
         DUE.is("6: showings", x.has(9), 4);
         DUE.is("6: run", x.run(0, 4), 4);
         DUE.is("6: the second", x.tried(1, 3), 8);
+        for (int turn = 0; turn < 2; turn++) {
+            Due.plan(x, "show a 1 1 1" + "+1".repeat(40) + ";show a 1 1 2;show a 1 1 3;");
+            Due.plan(x, "show a 1 1 4;show a 1 1 5;show a 1 1 6;");
+        }
+        DUE.is("6: run", x.run(0, 4), 3);
+        DUE.is("6: the second, short behind a long one", x.tried(5, 3), 5);
+        DUE.is("6: the third, short behind a long one", x.tried(6, 3), 6);
         x.carries(0, -1, 0, 3, 3, 9);
         DUE.is("4: nothing is shown in a field", Due.field(x, "thing a 2;thing b 2;sight 5 when all;"), 3);
         x.carries(0, -1, 1, 3, 3, 50);
