@@ -9,6 +9,8 @@ import java.util.Random;
 /** Any calls with any arguments: none throws, and the same calls give the same answers. */
 public final class CalmTest {
     private static final Due DUE = new Due();
+    private static final int CALLS = 512;
+    private static final int MOST_CALLS_OF_A_TEXT = 48;
     private static final String[] PIECES = {"sight ", "disc ", "thing ", "way ", "knows ", "blind ", "line ", "show ", "times ",
         "when ", "or ", "and ", "not ", "all ", "column ", "row ", "bright ", "light ", "kind ", "min(", "max(", "a ", "b ", "c ",
         "1 ", "3 ", "9 ", "0 ", "99 ", "12345 ", "abcdefg ", "; ", ";", "( ", ") ", "[ ", "] ", ", ", "+ ", "- ", "* ", "/ ",
@@ -27,7 +29,7 @@ public final class CalmTest {
             }
         }
         calls.sort(Comparator.comparing(Method::getName));
-        for (int seed = 0; seed < 300; seed++) {
+        for (int seed = 0; seed < 500; seed++) {
             DUE.is("answers again of seed " + seed, answers(calls, seed), answers(calls, seed));
         }
         DUE.end();
@@ -37,11 +39,15 @@ public final class CalmTest {
         Random random = new Random(seed);
         BlindSide x = new BlindSide();
         long sum = 0;
-        for (int n = 0; n < 500; n++) {
+        int called = 0;
+        while (called < CALLS - MOST_CALLS_OF_A_TEXT) {
             Method call = calls.get(random.nextInt(calls.size()));
             if (call.getName().equals("field") || call.getName().equals("law") || call.getName().equals("plan")) {
-                Due.feed(x, text(random, call.getName()));
+                String text = text(random, call.getName());
+                Due.feed(x, text);
+                called += 2 + (text.length() + 19) / 20;
             }
+            called++;
             Object answer = answer(x, call, arguments(random, call));
             sum = 31 * sum + answer.hashCode();
         }
