@@ -337,10 +337,9 @@ public final class TextTest {
         DUE.is("6: showings", x.has(9), 4);
         DUE.is("6: run", x.run(0, 4), 4);
         DUE.is("6: the second", x.tried(1, 3), 8);
-        for (int turn = 0; turn < 2; turn++) {
-            Due.plan(x, "show a 1 1 1" + "+1".repeat(40) + ";show a 1 1 2;show a 1 1 3;");
-            Due.plan(x, "show a 1 1 4;show a 1 1 5;show a 1 1 6;");
-        }
+        Due.law(x, 0, "line 1" + "+1".repeat(40) + " when all;line 1 when all;line 1 when all;");
+        Due.law(x, 0, "");
+        Due.plan(x, "show a 1 1 4;show a 1 1 5;show a 1 1 6;");
         DUE.is("6: run", x.run(0, 4), 3);
         DUE.is("6: the second, short behind a long one", x.tried(5, 3), 5);
         DUE.is("6: the third, short behind a long one", x.tried(6, 3), 6);
